@@ -356,13 +356,14 @@ public final class BusThrees {
     private void findBest() {
         // What spare held is not needed again: each reading of signs fills it anew.
         trial.layLatenesses(line, NONE);
-        long least = Long.MAX_VALUE;
+        long least = 0;
         for (int stop = 0; stop < LAST_STOP; stop++) {
             for (int gap = 0; gap <= BEST_MOST; gap += BEST_STEP) {
                 spare.keepOnlyGap(stop, gap);
                 trial.play(line, spare);
                 long cost = trial.sumOfWaits() + trial.rode + (long) STRANDED_COST * trial.stranded;
-                if (cost < least) {
+                boolean isFirst = stop == 0 && gap == 0;
+                if (isFirst || cost < least) {
                     least = cost;
                     bestStop = stop;
                     bestGap = gap;
@@ -734,7 +735,10 @@ public final class BusThrees {
         private void noteWaits(int stop, int second, int count, int gap) {
             long sumOfNumbers = (long) count * taken[stop] + (long) count * (count + 1) / 2;
             waits[stop] += (long) count * second - gap * sumOfNumbers;
-            longest[stop] = Math.max(longest[stop], second - gap * (taken[stop] + 1));
+            int firstWaited = second - gap * (taken[stop] + 1);
+            if (firstWaited > longest[stop]) {
+                longest[stop] = firstWaited;
+            }
         }
 
         private void emptyOut(Line line, int stop, int here) {

@@ -10,11 +10,15 @@ public final class BoardsTest {
         promise22Board();
         promise22BoardLies();
         promise22BoardWhichBus();
+        promise22BoardOfEight();
         promise22BoardTurned();
         promise22BoardRefusals();
         promise23Best();
         promise23BestStop();
+        promise23BestGreatestGap();
+        promise23BestStranded();
         promise23BestOfSeveral();
+        promise23BestAtNoLastStop();
         promise23BestRefusals();
         promise24Told();
         c.end();
@@ -95,6 +99,13 @@ public final class BoardsTest {
         boards(y, 5, 110, 600, 0, 0);
     }
 
+    private static void promise22BoardOfEight() {
+        BusThrees x = buses(0, 100, 200, 300, 400, 500, 600, 700);
+        boards(x, 9, 7200, BusThrees.NONE, BusThrees.NONE, NOT_TOLD);
+        boards(x, 9, 1700, 80, 7, 0);
+        boards(x, 1, 519, 1, 4, 0);
+    }
+
     private static void promise22BoardTurned() {
         BusThrees x = buses(0, 100);
         x.turn(0, 5);
@@ -127,9 +138,9 @@ public final class BoardsTest {
         c.due("best(1)", x.best(1), gap);
     }
 
-    /** BUSES at 100, 101, 700; one each 10 seconds at a STOP for the next; nothing takes time but riding. */
-    private static BusThrees pair(int secondOfTheNext, int peopleAt) {
-        BusThrees x = buses(100, secondOfTheNext, 700);
+    /** BUSES at 100 and two more; one each 10 seconds at a STOP for the next; only riding takes time. */
+    private static BusThrees pair(int secondOfTheNext, int secondOfTheLast, int peopleAt) {
+        BusThrees x = buses(100, secondOfTheNext, secondOfTheLast);
         x.set(0, 0);
         x.set(1, 0);
         x.set(2, 0);
@@ -140,7 +151,7 @@ public final class BoardsTest {
 
     private static void promise23Best() {
         // The 60 who come at STOP 1 between BUS 0 and BUS 2 wait least if BUS 1 halves the gap.
-        BusThrees x = pair(101, 1);
+        BusThrees x = pair(101, 700, 1);
         bests(x, 0, 300);
         c.due("there is no RULE", x.told(3), 0);
         c.visit(x, 1, 0, 101, 101);
@@ -158,7 +169,7 @@ public final class BoardsTest {
 
     private static void promise23BestStop() {
         // One who got on BUS 1 at STOP 0 for STOP 1 would be held there: STOP 1 is better.
-        BusThrees x = pair(110, 5);
+        BusThrees x = pair(110, 700, 5);
         x.stop(0, 1, 10);
         x.stop(0, 2, 1);
         bests(x, 1, 300);
@@ -166,9 +177,47 @@ public final class BoardsTest {
         bests(x, 0, 300);
     }
 
+    private static void promise23BestGreatestGap() {
+        // Half of 1200 is the greatest gap there is; half of 1900 would be more.
+        bests(pair(101, 1300, 1), 0, 600);
+        bests(pair(101, 2000, 1), 0, 600);
+    }
+
+    private static void promise23BestStranded() {
+        // Who comes to STOP 1 at 600 for STOP 3 waits 520 for BUS 2, or 0 for BUS 1 if that waits 480 at
+        // STOP 0; but that is TURNED at STOP 2: he rides on no further, and costs 1000 more.
+        BusThrees x = buses(0, 0, 1000);
+        x.set(0, 0);
+        x.set(1, 0);
+        x.set(2, 0);
+        x.turn(1, 2);
+        x.stop(1, 1, 600);
+        x.stop(1, 2, 2);
+        x.stop(2, 0, 480);
+        bests(x, 0, 0);
+        x.stop(2, 0, 481);
+        bests(x, 0, 480);
+    }
+
     private static void promise23BestOfSeveral() {
         bests(buses(5), 0, 0);
         bests(buses(5, 5, 5), 0, 0);
+    }
+
+    /** No waiting at all would be best; but a LINE of STOP 9, which would be just that, is none of those. */
+    private static void promise23BestAtNoLastStop() {
+        // At each STOP the first takes who is there, and meanwhile the other passes it: at odd STOPS BUS 0,
+        // 5 seconds before BUS 1 leaves, at even ones BUS 1, 57 or more before. Waiting costs least at odd ones.
+        BusThrees x = buses(900, 905);
+        x.set(3, 1);
+        x.set(0, 60);
+        for (int stop = 0; stop < 9; stop++) {
+            x.stop(stop, 1, 900);
+            x.stop(stop, 2, 9);
+        }
+        c.visit(x, 0, 1, 1082, 1082);
+        c.visit(x, 1, 1, 1025, 1087);
+        bests(x, 1, 0);
     }
 
     private static void promise23BestRefusals() {

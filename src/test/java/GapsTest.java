@@ -58,6 +58,7 @@ public final class GapsTest {
         x.turn(0, 8);
         follows(x, 7, 250);
         follows(x, 8);
+        follows(buses(0, 1, 3, 6, 10, 15, 21, 28), 8, 1, 2, 3, 4, 5, 6, 7);
         follows(buses(), 0);
         follows(buses(5), 0);
     }
@@ -223,6 +224,11 @@ public final class GapsTest {
         x.stop(8, 1, 900);
         // BUS 0 comes to STOP 8 at 100 + 12 + 10 + 8 * 120 = 1082; the next is nobody's yet.
         waits(x, 8, 1, 182, 182);
+        x.stop(8, 1, 0);
+        waits(x, 8, 0, 0, 0);
+        x.stop(0, 1, 90);
+        // At 100 who came at 90, at 500 who came at 180, 270, 360, 450.
+        waits(x, 0, 5, 10 + 320 + 230 + 140 + 50, 320);
         c.due("waited(9, 0)", x.waited(9, 0), BusThrees.UNKNOWN);
         c.due("waited(-1, 0)", x.waited(-1, 0), BusThrees.UNKNOWN);
         c.due("waited(9, 3): UNKNOWN first", x.waited(9, 3), BusThrees.UNKNOWN);
@@ -256,6 +262,10 @@ public final class GapsTest {
         nobodyWaits.bus(20, 1);
         nobodyWaits.stop(0, 1, 20);
         means(nobodyWaits, 0, 0, 0, 1);
+        BusThrees oneWaits = new BusThrees();
+        oneWaits.bus(27, 1);
+        oneWaits.stop(0, 1, 20);
+        means(oneWaits, 0, 0, 7, 1);
         c.due("mean(9, 0, 0)", x.mean(9, 0, 0), BusThrees.LOST - 1);
         c.due("mean(-1, 5, 5)", x.mean(-1, 5, 5), BusThrees.LOST - 1);
         c.due("mean(0, 2, 0)", x.mean(0, 2, 0), BusThrees.LOST - 2);

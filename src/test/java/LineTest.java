@@ -20,6 +20,7 @@ public final class LineTest {
         promise8AtPassing();
         promise8AtLikeSeconds();
         promise8AtTurned();
+        promise8AtTurnedOnlyLater();
         promise8AtTurnedStandsInTheWay();
         promise8AtTheEnd();
         promise8AtRefusals();
@@ -350,6 +351,17 @@ public final class LineTest {
         empty.bus(0, 5);
         empty.turn(0, 1);
         c.visit(empty, 0, 1, 120, 120, 0, 0, 0, 0);
+    }
+
+    private static void promise8AtTurnedOnlyLater() {
+        BusThrees x = turned();
+        x.turn(0, 9);
+        // At STOP 2 one gets off and two of five find seats.
+        c.visit(x, 0, 2, 294, 294 + 8 + 4 + 1, 2, 1, 5, 3);
+        x.turn(0, 2);
+        c.visit(x, 0, 2, 294, 306, 0, 1, 0, 5);
+        x.turn(0, 1);
+        c.visit(x, 0, 1, 164, 175, 0, 0, 0, 1);
     }
 
     private static void promise8AtTurnedStandsInTheWay() {
