@@ -261,7 +261,7 @@ public final class BusThrees {
     }
 
     public int held(int bus, int stop, int seconds) {
-        if (!line.hasBus(bus) || !isStop(stop) || !line.comes(bus, stop)) {
+        if (!line.hasBus(bus) || !isGoingStop(stop) || !line.comes(bus, stop)) {
             return NOT_TOLD;
         }
         if (seconds < 1 || seconds > LONGEST_STAND) {

@@ -20,7 +20,7 @@ public final class GapsTest {
         promise20All();
         promise20AllStranded();
         promise21Held();
-        promise21HeldAtTheEnd();
+        promise21HeldWhereTheLineEnds();
         promise21HeldRefusals();
         c.end();
     }
@@ -357,23 +357,30 @@ public final class GapsTest {
         c.due("held(0, 2, 60) where it does not come", x.held(0, 2, 60), NOT_TOLD);
     }
 
-    private static void promise21HeldAtTheEnd() {
-        // BUS 0 has nobody; BUS 1 has three for STOP 9, where it would come at 1124.
+    private static void promise21HeldWhereTheLineEnds() {
+        // BUS 0 has nobody and leaves STOP 8 at 960; BUS 1 has three for STOP 9 and comes to STOP 8 at 1004.
         BusThrees x = buses(0, 30);
         x.stop(0, 1, 10);
         x.stop(0, 2, 9);
         c.visit(x, 1, 9, 1124, 1135);
-        c.due("held(0, 9, 60)", x.held(0, 9, 60), 3 * 16);
-        c.due("held(1, 9, 60)", x.held(1, 9, 60), 0);
+        c.due("held(0, 8, 60): three come 16 later", x.held(0, 8, 60), 3 * 16);
+        c.due("held(0, 9, 60): as a LATENESS there", x.held(0, 9, 60), NOT_TOLD);
+        c.due("late(0, 9, 60)", x.late(0, 9, 60), BusThrees.UNKNOWN);
+        c.due("held(1, 9, 60)", x.held(1, 9, 60), NOT_TOLD);
         x.set(3, 1);
-        c.due("held(0, 9, 60) with PASSING", x.held(0, 9, 60), 0);
+        c.due("held(0, 8, 60) with PASSING", x.held(0, 8, 60), 0);
+        c.due("held(0, 9, 60) with PASSING", x.held(0, 9, 60), NOT_TOLD);
+        x.set(3, 0);
+        x.turn(0, 8);
+        c.due("held(0, 8, 60) where it is TURNED", x.held(0, 8, 60), 3 * 16);
+        c.due("held(0, 9, 60) behind where it is TURNED", x.held(0, 9, 60), NOT_TOLD);
     }
 
     private static void promise21HeldRefusals() {
         c.due("held without BUSES", buses().held(0, 0, 1), NOT_TOLD);
         BusThrees x = buses(30);
-        int[][] refused = {{-1, 0, 1}, {1, 0, 1}, {0, -1, 1}, {0, 10, 1}, {0, 0, 0}, {0, 0, 901}, {0, 0, -1},
-            {Integer.MAX_VALUE, 0, 1}, {0, Integer.MIN_VALUE, 1}, {0, 0, Integer.MIN_VALUE}};
+        int[][] refused = {{-1, 0, 1}, {1, 0, 1}, {0, -1, 1}, {0, 9, 1}, {0, 10, 1}, {0, 0, 0}, {0, 0, 901},
+            {0, 0, -1}, {Integer.MAX_VALUE, 0, 1}, {0, Integer.MIN_VALUE, 1}, {0, 0, Integer.MIN_VALUE}};
         for (int[] r : refused) {
             c.due("held(" + r[0] + ", " + r[1] + ", " + r[2] + ")", x.held(r[0], r[1], r[2]), NOT_TOLD);
         }
