@@ -1,6 +1,5 @@
 /** Promises 14 to 21 and part 3 of the Terms at their edges: a method for each sentence that names one. */
 public final class GapEdgesTest {
-    private static final int NOT_TOLD = -2000000000;
     private static final Check c = new Check("GapEdgesTest");
 
     private GapEdgesTest() {
@@ -45,19 +44,6 @@ public final class GapEdgesTest {
         c.end();
     }
 
-    private static BusThrees buses(int... seconds) {
-        BusThrees x = new BusThrees();
-        for (int second : seconds) {
-            x.bus(second, 80);
-        }
-        return x;
-    }
-
-    private static void ones(BusThrees x, int stop, int bus) {
-        c.due("one(0)", x.one(0), stop);
-        c.due("one(1)", x.one(1), bus);
-    }
-
     // ---- promise 14
 
     /** "how many (k = 0)": one fewer than go on, and none of none. */
@@ -97,7 +83,7 @@ public final class GapEdgesTest {
 
     /** "By STOPS 0 to 8"; "UNKNOWN: 0 to 8". */
     private static void followAtStopsNoneToEight() {
-        BusThrees x = buses(0, 50);
+        BusThrees x = States.buses(0, 50);
         x.late(1, 0, 1);
         x.late(1, 8, 2);
         c.due("follow(-1, 1)", x.follow(-1, 1), BusThrees.UNKNOWN);
@@ -109,7 +95,7 @@ public final class GapEdgesTest {
     /** "of BUSES that go on from there": one that is TURNED there does not. */
     private static void followOfThoseThatGoOn() {
         for (int turned = 1; turned < 9; turned++) {
-            BusThrees x = buses(0, 100, 250);
+            BusThrees x = States.buses(0, 100, 250);
             x.turn(1, turned);
             for (int stop = 0; stop < 9; stop++) {
                 boolean goesOn = stop < turned;
@@ -122,7 +108,7 @@ public final class GapEdgesTest {
 
     /** "in the order in which they leave, of like ones by number": the one that follows is the greater. */
     private static void followOfLikeOnesByNumber() {
-        BusThrees x = buses(0, 100);
+        BusThrees x = States.buses(0, 100);
         x.set(3, 1);
         int[] late = {99, 100, 101};
         int[] follows = {1, 0, 1};
@@ -130,7 +116,7 @@ public final class GapEdgesTest {
         for (int i = 0; i < 3; i++) {
             x.late(0, 4, late[i]);
             c.due("follow(4, 1)", x.follow(4, 1), follows[i]);
-            ones(x, 4, which[i]);
+            c.ones(x, 4, which[i]);
             x.mend();
         }
     }
@@ -141,32 +127,32 @@ public final class GapEdgesTest {
     private static void oneIsTwoOrLess() {
         int[] twos = {0, 1, 30, 599, 600};
         for (int two : twos) {
-            BusThrees in = buses(0, two);
+            BusThrees in = States.buses(0, two);
             in.set(4, two);
-            ones(in, 0, 1);
-            BusThrees out = buses(0, two + 1);
+            c.ones(in, 0, 1);
+            BusThrees out = States.buses(0, two + 1);
             out.set(4, two);
-            ones(out, BusThrees.NONE, BusThrees.NONE);
+            c.ones(out, BusThrees.NONE, BusThrees.NONE);
         }
     }
 
     /** "the first STOP": 0, also if they are nearer behind it. */
     private static void oneAtTheFirstStopOfAll() {
-        BusThrees x = buses(0, 30);
+        BusThrees x = States.buses(0, 30);
         x.late(0, 3, 30);
-        ones(x, 0, 1);
-        BusThrees y = buses(0, 31);
+        c.ones(x, 0, 1);
+        BusThrees y = States.buses(0, 31);
         y.late(0, 3, 31);
-        ones(y, 3, 1);
+        c.ones(y, 3, 1);
     }
 
     /** "(0 to 8)": those that come together only at STOP 9 are not ONE. */
     private static void oneAtTheLastStopThatCounts() {
-        BusThrees x = buses(0, 100);
+        BusThrees x = States.buses(0, 100);
         x.late(0, 8, 69);
-        ones(x, BusThrees.NONE, BusThrees.NONE);
+        c.ones(x, BusThrees.NONE, BusThrees.NONE);
         x.late(0, 8, 1);
-        ones(x, 8, 1);
+        c.ones(x, 8, 1);
         // He of 100 goes by BUS 0 to STOP 9, where it is in the way of BUS 1: they leave STOPS 0 to 8 thirty apart.
         BusThrees y = new BusThrees();
         y.bus(100, 80);
@@ -181,63 +167,63 @@ public final class GapEdgesTest {
         c.visit(y, 0, 9, 1240, 1310, 0, 1);
         c.visit(y, 1, 9, 1310, 1310);
         y.set(4, 29);
-        ones(y, BusThrees.NONE, BusThrees.NONE);
+        c.ones(y, BusThrees.NONE, BusThrees.NONE);
         y.set(4, 30);
-        ones(y, 0, 1);
+        c.ones(y, 0, 1);
     }
 
     /** "the first such of that STOP: which BUS follows". */
     private static void oneIsTheFirstSuchOfThatStop() {
-        ones(buses(0, 100, 120, 125, 125), 0, 2);
-        ones(buses(0, 100, 200, 300, 400, 500, 600, 630), 0, 7);
-        ones(buses(0, 30, 31, 31), 0, 1);
+        c.ones(States.buses(0, 100, 120, 125, 125), 0, 2);
+        c.ones(States.buses(0, 100, 200, 300, 400, 500, 600, 630), 0, 7);
+        c.ones(States.buses(0, 30, 31, 31), 0, 1);
     }
 
     /** "ONE: the STOP (what = 0; NONE), the BUS (1; NONE)". */
     private static void oneOfNoneAndOfOneBus() {
-        BusThrees x = buses();
+        BusThrees x = States.buses();
         x.set(4, 600);
-        ones(x, BusThrees.NONE, BusThrees.NONE);
+        c.ones(x, BusThrees.NONE, BusThrees.NONE);
         x.bus(0, 1);
-        ones(x, BusThrees.NONE, BusThrees.NONE);
+        c.ones(x, BusThrees.NONE, BusThrees.NONE);
         x.bus(0, 1);
-        ones(x, 0, 1);
+        c.ones(x, 0, 1);
         x.turn(1, 1);
-        ones(x, 0, 1);
+        c.ones(x, 0, 1);
         x.late(0, 0, 1);
         x.set(4, 0);
         // BUS 1 comes as BUS 0 leaves, so that both leave at 1.
-        ones(x, 0, 1);
+        c.ones(x, 0, 1);
     }
 
     /** "OUTSIDE." of one. */
     private static void oneWhatNoneToOne() {
-        BusThrees x = buses(0, 0);
+        BusThrees x = States.buses(0, 0);
         c.due("one(-1)", x.one(-1), BusThrees.OUTSIDE);
         c.due("one(2)", x.one(2), BusThrees.OUTSIDE);
-        c.due("one(2) of no BUSES", buses().one(2), BusThrees.OUTSIDE);
+        c.due("one(2) of no BUSES", States.buses().one(2), BusThrees.OUTSIDE);
     }
 
     // ---- promise 16
 
     private static void beganOfNoLatenesses() {
-        c.due("began() of no BUSES", buses().began(), 0);
-        c.due("began() of ONE and no LATENESSES", buses(0, 10).began(), 0);
+        c.due("began() of no BUSES", States.buses().began(), 0);
+        c.due("began() of ONE and no LATENESSES", States.buses(0, 10).began(), 0);
     }
 
     /** "as bits": 0 to 9. */
     private static void beganOfTen() {
         // Each of ten takes 10 of 130: all must be for 30 to be left.
-        BusThrees x = buses(0, 130);
+        BusThrees x = States.buses(0, 130);
         for (int n = 0; n < 10; n++) {
             c.due("began() of " + n, x.began(), 0);
             x.late(0, n % 9, 10);
         }
         // The last one is at STOP 0: at STOP 8 all ten are together.
-        ones(x, 8, 1);
+        c.ones(x, 8, 1);
         c.due("began() of ten", x.began(), 1023);
         x.mend();
-        ones(x, BusThrees.NONE, BusThrees.NONE);
+        c.ones(x, BusThrees.NONE, BusThrees.NONE);
         c.due("began() of nine", x.began(), 0);
         x.late(0, 0, 9);
         c.due("began() of nine and a lesser one", x.began(), 0);
@@ -249,7 +235,7 @@ public final class GapEdgesTest {
         // 110 in all: of the nine each may be missing.
         c.due("began() of nine and one of 20", x.began(), 512);
         for (int bit = 0; bit < 10; bit++) {
-            BusThrees y = buses(0, 200);
+            BusThrees y = States.buses(0, 200);
             for (int n = 0; n < 10; n++) {
                 y.late(n == bit ? 0 : 1, 0, n == bit ? 200 : 1);
             }
@@ -259,7 +245,7 @@ public final class GapEdgesTest {
 
     /** "without which (each alone) there is no ONE". */
     private static void beganEachAlone() {
-        BusThrees x = buses(0, 200, 400);
+        BusThrees x = States.buses(0, 200, 400);
         x.late(0, 1, 170);
         c.due("began()", x.began(), 1);
         x.late(1, 5, 370);
@@ -271,7 +257,7 @@ public final class GapEdgesTest {
 
     /** "(0: there is no ONE, too)". */
     private static void beganIfThereIsNoOne() {
-        BusThrees x = buses(0, 200);
+        BusThrees x = States.buses(0, 200);
         x.late(0, 1, 169);
         c.due("began() where 31 are left", x.began(), 0);
         x.set(4, 31);
@@ -283,11 +269,11 @@ public final class GapEdgesTest {
     /** "NONE: fewer than two go on." */
     private static void spreadOfFewerThanTwo() {
         for (int stop = 0; stop < 9; stop++) {
-            c.due("spread of no BUSES", buses().spread(stop), BusThrees.NONE);
-            c.due("spread of one", buses(5).spread(stop), BusThrees.NONE);
-            c.due("spread of two", buses(5, 90).spread(stop), 0);
+            c.due("spread of no BUSES", States.buses().spread(stop), BusThrees.NONE);
+            c.due("spread of one", States.buses(5).spread(stop), BusThrees.NONE);
+            c.due("spread of two", States.buses(5, 90).spread(stop), 0);
         }
-        BusThrees x = buses(0, 100);
+        BusThrees x = States.buses(0, 100);
         x.turn(1, 5);
         c.due("spread(4)", x.spread(4), 0);
         c.due("spread(5)", x.spread(5), BusThrees.NONE);
@@ -299,35 +285,31 @@ public final class GapEdgesTest {
 
     /** "the greatest FOLLOW less the least one", wherever they stand. */
     private static void spreadOfTwoAndOfEight() {
-        c.due("greatest first, least last", buses(0, 90, 100, 101).spread(0), 89);
-        c.due("least first, greatest last", buses(0, 1, 11, 101).spread(8), 89);
-        c.due("all alike", buses(0, 10, 20, 30, 40, 50, 60, 70).spread(3), 0);
-        c.due("the last of eight", buses(0, 10, 20, 30, 40, 50, 60, 7200).spread(3), 7130);
-        c.due("all at once", buses(7, 7, 7, 7, 7, 7, 7, 7).spread(8), 0);
+        c.due("greatest first, least last", States.buses(0, 90, 100, 101).spread(0), 89);
+        c.due("least first, greatest last", States.buses(0, 1, 11, 101).spread(8), 89);
+        c.due("greatest between", States.buses(0, 10, 100, 110).spread(4), 80);
+        c.due("least between", States.buses(0, 50, 60, 110).spread(4), 40);
+        c.due("all alike", States.buses(0, 10, 20, 30, 40, 50, 60, 70).spread(3), 0);
+        c.due("the last of eight", States.buses(0, 10, 20, 30, 40, 50, 60, 7200).spread(3), 7130);
+        c.due("all at once", States.buses(7, 7, 7, 7, 7, 7, 7, 7).spread(8), 0);
     }
 
     // ---- promise 18
 
-    private static void waits(BusThrees x, int stop, int count, int seconds, int longest) {
-        c.due("waited(" + stop + ", 0)", x.waited(stop, 0), count);
-        c.due("waited(" + stop + ", 1)", x.waited(stop, 1), seconds);
-        c.due("waited(" + stop + ", 2)", x.waited(stop, 2), longest);
-    }
-
     private static void waitedOfNobody() {
         for (int stop = 0; stop < 9; stop++) {
-            waits(buses(), stop, 0, 0, 0);
-            waits(buses(7200), stop, 0, 0, 0);
-            BusThrees noBuses = buses();
+            c.waits(States.buses(), stop, 0, 0, 0);
+            c.waits(States.buses(7200), stop, 0, 0, 0);
+            BusThrees noBuses = States.buses();
             noBuses.stop(stop, 1, 10);
-            waits(noBuses, stop, 0, 0, 0);
+            c.waits(noBuses, stop, 0, 0, 0);
         }
         // A BUS one second too soon: it comes to STOP 7 at 840.
-        BusThrees tooSoon = buses(0);
+        BusThrees tooSoon = States.buses(0);
         c.due("GAP 841", tooSoon.stop(7, 1, 841), 0);
-        waits(tooSoon, 7, 0, 0, 0);
+        c.waits(tooSoon, 7, 0, 0, 0);
         c.due("GAP 840", tooSoon.stop(7, 1, 840), 841);
-        waits(tooSoon, 7, 1, 0, 0);
+        c.waits(tooSoon, 7, 1, 0, 0);
     }
 
     /** "of all who got on there": not of those who are left. */
@@ -335,11 +317,11 @@ public final class GapEdgesTest {
         BusThrees x = new BusThrees();
         x.bus(100, 1);
         x.stop(0, 1, 10);
-        waits(x, 0, 1, 90, 90);
+        c.waits(x, 0, 1, 90, 90);
         c.due("left waiting", x.at(0, 0, 5), 9);
         x.turn(0, 1);
         x.stop(1, 1, 10);
-        waits(x, 1, 0, 0, 0);
+        c.waits(x, 1, 0, 0, 0);
     }
 
     /** "the longest": also of one who came as the BUS came, and of a later BUS. */
@@ -347,28 +329,28 @@ public final class GapEdgesTest {
         BusThrees x = new BusThrees();
         x.bus(10, 80);
         x.stop(0, 1, 10);
-        waits(x, 0, 1, 0, 0);
+        c.waits(x, 0, 1, 0, 0);
         BusThrees y = new BusThrees();
         y.bus(11, 80);
         y.stop(0, 1, 10);
-        waits(y, 0, 1, 1, 1);
+        c.waits(y, 0, 1, 1, 1);
         y.bus(50, 80);
         // Those of 20, 30, 40, 50.
-        waits(y, 0, 5, 1 + 60, 30);
+        c.waits(y, 0, 5, 1 + 60, 30);
         // The next would come at 61, but the one ahead stands till 66: he of 60 waits 6.
         y.bus(61, 80);
-        waits(y, 0, 6, 1 + 60 + 6, 30);
+        c.waits(y, 0, 6, 1 + 60 + 6, 30);
         BusThrees last = new BusThrees();
         last.bus(0, 80);
         last.stop(8, 1, 480);
-        waits(last, 8, 2, 480, 480);
+        c.waits(last, 8, 2, 480, 480);
     }
 
     /** "how many (what = 0), seconds (1), the longest (2). UNKNOWN: 0 to 8; OUTSIDE." */
     private static void waitedWhatNoneToTwo() {
-        BusThrees x = buses(100);
+        BusThrees x = States.buses(100);
         x.stop(0, 1, 30);
-        waits(x, 0, 3, 70 + 40 + 10, 70);
+        c.waits(x, 0, 3, 70 + 40 + 10, 70);
         c.due("waited(0, -1)", x.waited(0, -1), BusThrees.OUTSIDE);
         c.due("waited(0, 3)", x.waited(0, 3), BusThrees.OUTSIDE);
         c.due("waited(-1, 3)", x.waited(-1, 3), BusThrees.UNKNOWN);
@@ -377,16 +359,11 @@ public final class GapEdgesTest {
 
     // ---- promise 19
 
-    private static void means(BusThrees x, int stop, int what, long upper, long lower) {
-        c.due("mean(" + stop + ", " + what + ", 0)", x.mean(stop, what, 0), upper);
-        c.due("mean(" + stop + ", " + what + ", 1)", x.mean(stop, what, 1), lower);
-    }
-
     /** "(0 by 1 for none)": nobody got on, or nobody waited. */
     private static void meanOfNone() {
         for (int stop = 0; stop < 9; stop++) {
-            means(buses(), stop, 0, 0, 1);
-            means(buses(7200), stop, 0, 0, 1);
+            c.means(States.buses(), stop, 0, 0, 1);
+            c.means(States.buses(7200), stop, 0, 0, 1);
         }
         BusThrees x = new BusThrees();
         x.stop(0, 1, 900);
@@ -394,7 +371,7 @@ public final class GapEdgesTest {
         x.bus(1800, 80);
         x.bus(2700, 80);
         c.due("three got on", x.waited(0, 0), 3);
-        means(x, 0, 0, 0, 1);
+        c.means(x, 0, 0, 0, 1);
     }
 
     /** "in lowest terms". */
@@ -402,28 +379,28 @@ public final class GapEdgesTest {
         // Each 10 seconds one: at 10 n and m seconds they waited 10 (0 + ... + n - 1) and n m.
         long[][] secondsAndMean = {{11, 1, 1}, {20, 5, 1}, {21, 6, 1}, {30, 10, 1}, {40, 15, 1}, {47, 22, 1}};
         for (long[] s : secondsAndMean) {
-            BusThrees x = buses((int) s[0]);
+            BusThrees x = States.buses((int) s[0]);
             x.stop(0, 1, 10);
-            means(x, 0, 0, s[1], s[2]);
+            c.means(x, 0, 0, s[1], s[2]);
         }
         // With 11 seconds: 0 and 11 is 11 by 2; 0, 11, 22, 33 is 66 by 4.
-        BusThrees two = buses(22);
+        BusThrees two = States.buses(22);
         two.stop(0, 1, 11);
-        means(two, 0, 0, 11, 2);
-        BusThrees four = buses(44);
+        c.means(two, 0, 0, 11, 2);
+        BusThrees four = States.buses(44);
         four.stop(0, 1, 11);
-        means(four, 0, 0, 33, 2);
+        c.means(four, 0, 0, 33, 2);
         // 1 and 1 of two BUSES and 0: 1 by 3 twice, 2 by 3.
-        BusThrees three = buses(11, 21, 30);
+        BusThrees three = States.buses(11, 21, 30);
         three.set(0, 0);
         three.set(1, 0);
         three.stop(0, 1, 10);
-        means(three, 0, 0, 2, 3);
+        c.means(three, 0, 0, 2, 3);
     }
 
     /** "refused with LOST and the refusal"; "UNKNOWN, OUTSIDE (LOST less 1, 2)". */
     private static void meanRefusedWithLost() {
-        BusThrees x = buses(0, 100);
+        BusThrees x = States.buses(0, 100);
         for (int part = 0; part < 2; part++) {
             for (int what = 0; what < 2; what++) {
                 c.due("mean(9, ..)", x.mean(9, what, part), -1000000000000000001L);
@@ -441,49 +418,43 @@ public final class GapEdgesTest {
     /** HALF of no FOLLOWS, and of FOLLOWS that are 0. */
     private static void halfOfNone() {
         for (int stop = 0; stop < 9; stop++) {
-            means(buses(), stop, 1, 0, 1);
-            means(buses(100), stop, 1, 0, 1);
-            means(buses(100, 100), stop, 1, 0, 1);
-            means(buses(9, 9, 9, 9, 9, 9, 9, 9), stop, 1, 0, 1);
+            c.means(States.buses(), stop, 1, 0, 1);
+            c.means(States.buses(100), stop, 1, 0, 1);
+            c.means(States.buses(100, 100), stop, 1, 0, 1);
+            c.means(States.buses(9, 9, 9, 9, 9, 9, 9, 9), stop, 1, 0, 1);
         }
-        BusThrees x = buses(0, 100);
+        BusThrees x = States.buses(0, 100);
         x.turn(1, 4);
-        means(x, 3, 1, 50, 1);
-        means(x, 4, 1, 0, 1);
+        c.means(x, 3, 1, 50, 1);
+        c.means(x, 4, 1, 0, 1);
     }
 
     /** "HALF: the sum of FOLLOWS by how many, by 2." */
     private static void halfInLowestTerms() {
-        means(buses(0, 1), 0, 1, 1, 2);
-        means(buses(0, 2), 0, 1, 1, 1);
-        means(buses(0, 0, 1), 0, 1, 1, 4);
-        means(buses(0, 1, 2), 0, 1, 1, 2);
-        means(buses(0, 0, 0, 0, 0, 0, 0, 1), 8, 1, 1, 14);
-        means(buses(0, 0, 0, 0, 0, 0, 0, 7200), 8, 1, 3600, 7);
-        means(buses(0, 0, 0, 0, 0, 0, 0, 7), 8, 1, 1, 2);
+        c.means(States.buses(0, 1), 0, 1, 1, 2);
+        c.means(States.buses(0, 2), 0, 1, 1, 1);
+        c.means(States.buses(0, 0, 1), 0, 1, 1, 4);
+        c.means(States.buses(0, 1, 2), 0, 1, 1, 2);
+        c.means(States.buses(0, 0, 0, 0, 0, 0, 0, 1), 8, 1, 1, 14);
+        c.means(States.buses(0, 0, 0, 0, 0, 0, 0, 7200), 8, 1, 3600, 7);
+        c.means(States.buses(0, 0, 0, 0, 0, 0, 0, 7), 8, 1, 1, 2);
     }
 
     // ---- promise 20
 
-    private static void alls(BusThrees x, int waited, int rode, int stranded) {
-        c.due("all(0)", x.all(0), waited);
-        c.due("all(1)", x.all(1), rode);
-        c.due("all(2)", x.all(2), stranded);
-    }
-
     private static void allOfNone() {
-        alls(buses(), 0, 0, 0);
-        alls(buses(7200), 0, 0, 0);
-        BusThrees noBuses = buses();
+        c.alls(States.buses(), 0, 0, 0);
+        c.alls(States.buses(7200), 0, 0, 0);
+        BusThrees noBuses = States.buses();
         noBuses.stop(0, 1, 10);
-        alls(noBuses, 0, 0, 0);
-        BusThrees turned = buses(0, 0, 0, 0, 0, 0, 0, 0);
+        c.alls(noBuses, 0, 0, 0);
+        BusThrees turned = States.buses(0, 0, 0, 0, 0, 0, 0, 0);
         turned.turn(7, 1);
-        alls(turned, 0, 0, 0);
+        c.alls(turned, 0, 0, 0);
     }
 
     private static void allWhatNoneToTwo() {
-        for (BusThrees x : new BusThrees[] {buses(), buses(5)}) {
+        for (BusThrees x : new BusThrees[] {States.buses(), States.buses(5)}) {
             c.due("all(-1)", x.all(-1), BusThrees.OUTSIDE);
             c.due("all(0)", x.all(0), 0);
             c.due("all(2)", x.all(2), 0);
@@ -494,14 +465,14 @@ public final class GapEdgesTest {
     /** "rode (from getting on to when their BUS came where they got off". */
     private static void rodeTillTheirBusCame() {
         // One, for the next STOP: he rides while it stands where he got on, not while it stands where he gets off.
-        BusThrees x = buses(10);
+        BusThrees x = States.buses(10);
         x.stop(0, 1, 10);
         x.stop(0, 2, 1);
-        alls(x, 0, 130, 0);
+        c.alls(x, 0, 130, 0);
         x.late(0, 0, 7);
-        alls(x, 0, 137, 0);
+        c.alls(x, 0, 137, 0);
         x.late(0, 1, 100);
-        alls(x, 0, 137, 0);
+        c.alls(x, 0, 137, 0);
         // Behind another that stands there it comes later, and he rides longer.
         BusThrees y = new BusThrees();
         y.bus(0, 1);
@@ -509,51 +480,51 @@ public final class GapEdgesTest {
         y.stop(0, 1, 10);
         y.stop(0, 2, 1);
         y.late(0, 1, 100);
-        alls(y, 0, 210, 0);
-        BusThrees last = buses(0);
+        c.alls(y, 0, 210, 0);
+        BusThrees last = States.buses(0);
         last.stop(8, 1, 900);
         last.stop(8, 2, 9);
-        alls(last, 60, 130, 0);
+        c.alls(last, 60, 130, 0);
     }
 
     /** "STRANDED ones as well": they rode till they were put out, and are counted. */
     private static void strandedRodeAsWell() {
         for (int turned = 1; turned < 9; turned++) {
-            BusThrees x = buses(20);
+            BusThrees x = States.buses(20);
             x.stop(0, 1, 10);
             x.stop(0, 2, 9);
             x.turn(0, turned);
-            alls(x, 10, 2 * (12 + 120 * turned), 2);
+            c.alls(x, 10, 2 * (12 + 120 * turned), 2);
         }
-        BusThrees on = buses(20);
+        BusThrees on = States.buses(20);
         on.stop(0, 1, 10);
         on.stop(0, 2, 9);
-        alls(on, 10, 2 * (12 + 1080), 0);
+        c.alls(on, 10, 2 * (12 + 1080), 0);
     }
 
     // ---- promise 21
 
     /** "so many seconds (1 to 900) longer". */
     private static void heldOneToNineHundred() {
-        BusThrees x = buses(10);
+        BusThrees x = States.buses(10);
         x.stop(0, 1, 10);
-        c.due("held(0, 0, 0)", x.held(0, 0, 0), NOT_TOLD);
+        c.due("held(0, 0, 0)", x.held(0, 0, 0), Check.NOT_TOLD);
         c.due("held(0, 0, 1)", x.held(0, 0, 1), 1);
         c.due("held(0, 0, 900)", x.held(0, 0, 900), 900);
-        c.due("held(0, 0, 901)", x.held(0, 0, 901), NOT_TOLD);
-        c.due("held(0, 0, -1)", x.held(0, 0, -1), NOT_TOLD);
-        c.due("held(1, 0, 1)", x.held(1, 0, 1), NOT_TOLD);
-        c.due("held(-1, 0, 1)", x.held(-1, 0, 1), NOT_TOLD);
-        c.due("held(0, 0, 1) of no BUSES", buses().held(0, 0, 1), NOT_TOLD);
+        c.due("held(0, 0, 901)", x.held(0, 0, 901), Check.NOT_TOLD);
+        c.due("held(0, 0, -1)", x.held(0, 0, -1), Check.NOT_TOLD);
+        c.due("held(1, 0, 1)", x.held(1, 0, 1), Check.NOT_TOLD);
+        c.due("held(-1, 0, 1)", x.held(-1, 0, 1), Check.NOT_TOLD);
+        c.due("held(0, 0, 1) of no BUSES", States.buses().held(0, 0, 1), Check.NOT_TOLD);
     }
 
     /** "UNKNOWN (also the BUS does not come there)". */
     private static void heldWhereItDoesNotCome() {
         for (int turned = 1; turned < 9; turned++) {
-            BusThrees x = buses(0, 7200);
+            BusThrees x = States.buses(0, 7200);
             x.turn(0, turned);
             for (int stop = 0; stop < 9; stop++) {
-                c.due("held(0, " + stop + ", 1)", x.held(0, stop, 1), stop <= turned ? 0 : NOT_TOLD);
+                c.due("held(0, " + stop + ", 1)", x.held(0, stop, 1), stop <= turned ? 0 : Check.NOT_TOLD);
                 c.due("held(1, " + stop + ", 1)", x.held(1, stop, 1), 0);
             }
         }
@@ -561,15 +532,15 @@ public final class GapEdgesTest {
 
     /** Held as a LATENESS would: at STOPS 0 to 8. */
     private static void heldAtStopsNoneToEight() {
-        BusThrees x = buses(10);
+        BusThrees x = States.buses(10);
         x.stop(0, 1, 10);
         x.stop(0, 2, 9);
-        c.due("held(0, -1, 5)", x.held(0, -1, 5), NOT_TOLD);
+        c.due("held(0, -1, 5)", x.held(0, -1, 5), Check.NOT_TOLD);
         for (int stop = 0; stop < 9; stop++) {
             c.due("held(0, " + stop + ", 5)", x.held(0, stop, 5), 5);
         }
-        c.due("held(0, 9, 5)", x.held(0, 9, 5), NOT_TOLD);
-        c.due("held(0, 10, 5)", x.held(0, 10, 5), NOT_TOLD);
+        c.due("held(0, 9, 5)", x.held(0, 9, 5), Check.NOT_TOLD);
+        c.due("held(0, 10, 5)", x.held(0, 10, 5), Check.NOT_TOLD);
     }
 
     /** "by how much what all waited and rode becomes more": less than 0 if it becomes less, -1 to -6 too. */
@@ -590,10 +561,8 @@ public final class GapEdgesTest {
 
     /** Two BUSES; one each 200 seconds at STOP 1 for the next; only riding takes time. */
     private static BusThrees eachTwoHundredAtStopOne(int second, int secondOfTheNext) {
-        BusThrees x = buses(second, secondOfTheNext);
-        for (int which = 0; which < 3; which++) {
-            x.set(which, 0);
-        }
+        BusThrees x = States.buses(second, secondOfTheNext);
+        States.onlyRidingTakesTime(x);
         x.stop(1, 1, 200);
         x.stop(1, 2, 1);
         return x;
@@ -601,7 +570,7 @@ public final class GapEdgesTest {
 
     /** Held beside all LATENESSES: it is none of the ten. */
     private static void heldBesideTenLatenesses() {
-        BusThrees x = buses(10);
+        BusThrees x = States.buses(10);
         x.stop(0, 1, 10);
         for (int n = 0; n < 10; n++) {
             x.late(0, 0, 900);

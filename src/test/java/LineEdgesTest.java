@@ -42,6 +42,7 @@ public final class LineEdgesTest {
         likeOnesComeByNumber();
         noneMayPassAtFirst();
         turnedAllGetOffNobodyGetsOn();
+        turnedLeavesWhoIsThere();
         atTheLastStopAllGetOff();
         c.end();
     }
@@ -323,9 +324,7 @@ public final class LineEdgesTest {
         x.stop(0, 1, 10);
         x.stop(0, 2, 1);
         x.bus(10 * people, 80);
-        for (int which = 0; which < 3; which++) {
-            x.set(which, 0);
-        }
+        States.onlyRidingTakesTime(x);
         return x;
     }
 
@@ -630,7 +629,7 @@ public final class LineEdgesTest {
         }
     }
 
-    /** "if none may PASS (at first), a BUS that would come before one of a lesser number has left comes as that leaves". */
+    /** "if none may PASS (at first), a BUS that would come before one ... has left comes as that leaves". */
     private static void noneMayPassAtFirst() {
         for (int second = 98; second <= 102; second++) {
             BusThrees x = new BusThrees();
@@ -665,7 +664,7 @@ public final class LineEdgesTest {
         c.visit(z, 1, 9, 1140, 1140, 0, 0);
     }
 
-    /** "A BUS TURNED at a STOP ends there: all get off (OFF for each), those who wanted to go on are STRANDED, nobody gets on." */
+    /** "A BUS TURNED at a STOP ends there: all get off (OFF for each), ... nobody gets on." */
     private static void turnedAllGetOffNobodyGetsOn() {
         for (int turned = 1; turned < 9; turned++) {
             BusThrees x = new BusThrees();
@@ -673,6 +672,7 @@ public final class LineEdgesTest {
             x.stop(0, 1, 10);
             x.stop(0, 2, 4);
             x.stop(turned, 1, 10);
+            c.holds("some get on at " + turned + " before it is TURNED", x.at(0, turned, 2) > 0);
             x.turn(0, turned);
             int comes = 30 + 14 + 120 * turned + (turned > 4 ? 11 : 0);
             int stands = turned > 4 ? 0 : 11;
@@ -680,6 +680,18 @@ public final class LineEdgesTest {
             c.due("STRANDED at " + turned, x.all(2), turned < 4 ? 3 : 0);
             c.due("waited(" + turned + ", 0)", x.waited(turned, 0), 0);
         }
+    }
+
+    /** "5 who are left waiting, who had come": where a BUS is TURNED, those whom none ahead took. */
+    private static void turnedLeavesWhoIsThere() {
+        BusThrees x = new BusThrees();
+        x.bus(0, 2);
+        x.bus(200, 80);
+        x.stop(3, 1, 100);
+        x.turn(1, 3);
+        // BUS 0 at 360 takes those of 100 and 200; BUS 1 at 560 finds those of 300, 400, 500.
+        c.visit(x, 0, 3, 360, 372, 2, 0, 2, 1);
+        c.visit(x, 1, 3, 560, 560, 0, 0, 0, 3);
     }
 
     /** "At STOP 9 all get off, each BUS ends." */

@@ -9,7 +9,6 @@ public final class RefusalsTest {
     private static final Check c = new Check("RefusalsTest");
     private static final int MIN = Integer.MIN_VALUE;
     private static final int MAX = Integer.MAX_VALUE;
-    private static final int NOT_TOLD = -2000000000;
     private static final int[] NO_GOING_STOPS = {MIN, -1, 9, 10, MAX};
 
     /** A call that is refused. */
@@ -291,7 +290,7 @@ public final class RefusalsTest {
     }
 
     private void held(int bus, int stop, int seconds) {
-        refused("held(" + bus + ", " + stop + ", " + seconds + ")", NOT_TOLD, x -> x.held(bus, stop, seconds));
+        refused("held(" + bus + ", " + stop + ", " + seconds + ")", Check.NOT_TOLD, x -> x.held(bus, stop, seconds));
     }
 
     private void promise21Held() {

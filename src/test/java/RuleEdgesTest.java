@@ -36,14 +36,6 @@ public final class RuleEdgesTest {
         c.end();
     }
 
-    private static BusThrees buses(int... seconds) {
-        BusThrees x = new BusThrees();
-        for (int second : seconds) {
-            x.bus(second, 80);
-        }
-        return x;
-    }
-
     private static void leaves(BusThrees x, int bus, int stop, int want) {
         c.due("at(" + bus + ", " + stop + ", 1)", x.at(bus, stop, 1), want);
     }
@@ -126,16 +118,16 @@ public final class RuleEdgesTest {
     private static void faultByEachSign() {
         String[][] beginningsAndWhatMayFollow = {
             {"", DIGITS}, {"0", "cg"}, {"9", "cg"}, {"0c", DIGITS}, {"9g", DIGITS}, {"4c7", DIGITS + ";"},
-            {"4g70", DIGITS + ";"}, {"4c705", ";"}, {"4c705;", "012356789"}, {"0c7;9g12;", "12345678"}, {"4c705;5", "cg"},
-            {"4c7;5g", DIGITS}, {"4c7;5g1", DIGITS + ";"}, {"4c7;5g12", DIGITS + ";"}, {"4c7;5g123", ";"}, {TEN, DIGITS},
-            {TEN.substring(0, 35), DIGITS + ";"}, {TEN.substring(0, 36), "9"}};
+            {"4g70", DIGITS + ";"}, {"4c705", ";"}, {"4c705;", "012356789"}, {"0c7;9g12;", "12345678"},
+            {"4c705;5", "cg"}, {"4c7;5g", DIGITS}, {"4c7;5g1", DIGITS + ";"}, {"4c7;5g12", DIGITS + ";"},
+            {"4c7;5g123", ";"}, {TEN, DIGITS}, {TEN.substring(0, 35), DIGITS + ";"}, {TEN.substring(0, 36), "9"}};
         for (String[] b : beginningsAndWhatMayFollow) {
             for (char sign = 33; sign <= 126; sign++) {
                 String text = b[0] + sign;
                 if (b[1].indexOf(sign) < 0) {
                     fault(text, b[0].length());
                 } else {
-                    boolean isWhole = text.length() > b[0].length() && text.matches(".*[cg][0-9]+");
+                    boolean isWhole = text.matches(".*[cg][0-9]+");
                     fault(text, isWhole ? BusThrees.NONE : text.length());
                 }
             }
@@ -201,7 +193,7 @@ public final class RuleEdgesTest {
         String[] texts = {"0c0", "0c00", "0c000", "0c1", "0c01", "0c001", "0c9", "0c99", "0c999", "0c100"};
         int[] tens = {0, 0, 0, 1, 1, 1, 9, 99, 999, 100};
         for (int i = 0; i < texts.length; i++) {
-            BusThrees x = buses(0);
+            BusThrees x = States.buses(0);
             c.rule(x, texts[i]);
             leaves(x, 0, 0, 10 * tens[i]);
         }
@@ -212,7 +204,7 @@ public final class RuleEdgesTest {
 
     /** "The RULE is the signs' (they are empty then): LINES." */
     private static void ruleTakesTheSigns() {
-        BusThrees x = buses(0);
+        BusThrees x = States.buses(0);
         c.say(x, "0c5");
         leaves(x, 0, 0, 0);
         c.due("told(3)", x.told(3), 0);
@@ -235,7 +227,7 @@ public final class RuleEdgesTest {
     private static void ruleRefusedWithAFault() {
         String[] faulty = {"", "0", "0c", "0c9;", "0c9;0", "0x", "0c9999", "x", TEN + ";"};
         for (String text : faulty) {
-            BusThrees x = buses(0);
+            BusThrees x = States.buses(0);
             c.rule(x, "0c5;1c90");
             c.say(x, text);
             c.due("rule() of " + text, x.rule(), BusThrees.NO);
@@ -250,14 +242,14 @@ public final class RuleEdgesTest {
     /** "LINES with a ; between two". */
     private static void ruleOfOneToTenLines() {
         for (int lines = 1; lines <= 10; lines++) {
-            BusThrees x = buses(0);
+            BusThrees x = States.buses(0);
             c.say(x, TEN.substring(0, 4 * lines - 1));
             c.due("rule() of " + lines, x.rule(), lines);
             c.due("told(3)", x.told(3), lines);
             c.due("free()", x.free(), lines);
         }
         // Each LINE is of its own STOP.
-        BusThrees each = buses(0);
+        BusThrees each = States.buses(0);
         c.rule(each, "8c801;0c1;7c700;3c301");
         int[] due = {10, 130, 250, 3010, 3130, 3250, 3370, 7000, 8010, 8130};
         for (int stop = 0; stop < 10; stop++) {
@@ -267,7 +259,7 @@ public final class RuleEdgesTest {
 
     /** "A RULE by which all BUSES wait": of the one before nothing is left. */
     private static void aNewRuleIsTheWholeRule() {
-        BusThrees x = buses(0, 0);
+        BusThrees x = States.buses(0, 0);
         c.rule(x, "0c5;1c90;2g400");
         leaves(x, 0, 1, 900);
         leaves(x, 1, 1, 950);
@@ -285,13 +277,13 @@ public final class RuleEdgesTest {
         int[] tens = {0, 11, 12, 13, 999};
         int[] due = {125, 125, 125, 135, 9995};
         for (int i = 0; i < tens.length; i++) {
-            BusThrees x = buses(5);
+            BusThrees x = States.buses(5);
             c.rule(x, "1c" + tens[i]);
             leaves(x, 0, 0, 5);
             leaves(x, 0, 1, due[i]);
             leaves(x, 0, 2, due[i] + 120);
         }
-        BusThrees one = buses(4);
+        BusThrees one = States.buses(4);
         one.stop(0, 0, 119);
         c.rule(one, "1c12");
         c.visit(one, 0, 1, 123, 124);
@@ -299,7 +291,7 @@ public final class RuleEdgesTest {
 
     /** "behind when it came to STOP 0": each by its own coming. */
     private static void clockFromWhenItCameToTheFirstStop() {
-        BusThrees x = buses(0, 7);
+        BusThrees x = States.buses(0, 7);
         c.rule(x, "3c50");
         leaves(x, 0, 3, 500);
         leaves(x, 1, 3, 507);
@@ -317,7 +309,7 @@ public final class RuleEdgesTest {
         int[] gaps = {0, 59, 60, 61, 999};
         int[] due = {180, 180, 180, 181, 1119};
         for (int i = 0; i < gaps.length; i++) {
-            BusThrees x = buses(0, 60);
+            BusThrees x = States.buses(0, 60);
             c.rule(x, "1g" + gaps[i]);
             leaves(x, 0, 1, 120);
             leaves(x, 1, 0, 60);
@@ -328,12 +320,12 @@ public final class RuleEdgesTest {
     /** "(without any it does not wait)". */
     private static void gapWithoutAnyAheadDoesNotWait() {
         for (int stop = 0; stop < 9; stop++) {
-            BusThrees x = buses(0, 0);
+            BusThrees x = States.buses(0, 0);
             c.rule(x, stop + "g999");
             leaves(x, 0, stop, 120 * stop);
             leaves(x, 1, stop, 120 * stop + 999);
         }
-        BusThrees alone = buses(7200);
+        BusThrees alone = States.buses(7200);
         c.rule(alone, "0g999;8g999");
         leaves(alone, 0, 0, 7200);
         leaves(alone, 0, 8, 7200 + 960);
@@ -341,7 +333,7 @@ public final class RuleEdgesTest {
 
     /** "the latest leaving of those": not of the nearest ahead. */
     private static void gapBehindTheLatestLeaving() {
-        BusThrees x = buses(0, 1, 2);
+        BusThrees x = States.buses(0, 1, 2);
         x.set(3, 1);
         x.late(0, 4, 500);
         c.rule(x, "4g0");
@@ -358,7 +350,7 @@ public final class RuleEdgesTest {
 
     /** "and go on": one that is TURNED there is not counted, one that is TURNED at the next STOP is. */
     private static void gapNotBehindThoseThatEndThere() {
-        BusThrees x = buses(0, 10);
+        BusThrees x = States.buses(0, 10);
         c.rule(x, "3g300");
         x.turn(0, 3);
         leaves(x, 0, 3, 360);
@@ -373,7 +365,7 @@ public final class RuleEdgesTest {
     /** "of those that came there ahead of it": of like ones that of the lesser number. */
     private static void gapByWhoCameAhead() {
         for (int more = 0; more < 2; more++) {
-            BusThrees x = buses(0, 50);
+            BusThrees x = States.buses(0, 50);
             x.set(3, 1);
             x.late(0, 0, 50 + more);
             c.rule(x, "1g100");
@@ -384,7 +376,7 @@ public final class RuleEdgesTest {
 
     /** "Waiting is behind all else": it waits only for what its standing has left. */
     private static void waitingIsBehindAllElse() {
-        BusThrees x = buses(10);
+        BusThrees x = States.buses(10);
         x.stop(0, 1, 10);
         x.late(0, 0, 29);
         // One gets on: it stands till 10 + 8 + 2 + 29 = 49.
@@ -401,7 +393,7 @@ public final class RuleEdgesTest {
     /** "TURNED ones ...: no waiting". */
     private static void turnedOnesDoNotWait() {
         for (int stop = 1; stop < 9; stop++) {
-            BusThrees x = buses(0, 0);
+            BusThrees x = States.buses(0, 0);
             c.rule(x, stop + "c999");
             x.turn(0, stop);
             leaves(x, 0, stop, 120 * stop);
@@ -416,7 +408,7 @@ public final class RuleEdgesTest {
 
     /** "STOP 9: no waiting". */
     private static void noWaitingAtTheLastStop() {
-        BusThrees x = buses(0, 0);
+        BusThrees x = States.buses(0, 0);
         c.rule(x, "9c999");
         leaves(x, 0, 9, 1080);
         leaves(x, 1, 9, 1080);
@@ -432,7 +424,7 @@ public final class RuleEdgesTest {
 
     /** "There is no RULE any more: how many LINES it had." */
     private static void freeOfNoneAndOfTen() {
-        BusThrees x = buses(0);
+        BusThrees x = States.buses(0);
         c.due("free()", x.free(), 0);
         c.rule(x, "0c1;1c20;2c90;3c90;4c90;5c90;6c90;7c90");
         c.due("told(3)", x.told(3), 8);

@@ -3,6 +3,22 @@ final class States {
     private States() {
     }
 
+    /** BUSES of 80 SEATS that come to STOP 0 at these seconds. */
+    static BusThrees buses(int... seconds) {
+        BusThrees x = new BusThrees();
+        for (int second : seconds) {
+            x.bus(second, 80);
+        }
+        return x;
+    }
+
+    /** DOOR, ON and OFF become 0. */
+    static void onlyRidingTakesTime(BusThrees x) {
+        for (int which = 0; which < 3; which++) {
+            x.set(which, 0);
+        }
+    }
+
     /** Nothing is in it. */
     static void empty(BusThrees x) {
     }
