@@ -28,6 +28,7 @@ public final class FaceTest {
         members();
         nestedClasses();
         words();
+        lengths();
         c.end();
     }
 
@@ -113,5 +114,20 @@ public final class FaceTest {
             plain &= text.charAt(i) < 127;
         }
         c.holds("only plain signs", plain);
+    }
+
+    /** A method ends at the first row that is as far to the right as its own, and holds a } alone. */
+    private static void lengths() throws IOException {
+        List<String> rows = Files.readAllLines(Path.of("src/main/java/BusThrees.java"));
+        int methods = 0;
+        for (int i = 0; i < rows.size(); i++) {
+            String row = rows.get(i);
+            if (row.matches("( {4}| {8})\\w[^=]*\\) \\{") && !row.matches(" +(if|for|while|switch) .*")) {
+                int end = i + 1 + rows.subList(i + 1, rows.size()).indexOf(row.replaceAll("\\S.*", "}"));
+                c.holds("some sixty rows at most: " + row, end > i && end - i < 60);
+                methods++;
+            }
+        }
+        c.holds("there are methods", methods > 60);
     }
 }

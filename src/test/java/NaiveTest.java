@@ -49,8 +49,17 @@ public final class NaiveTest {
             if (name == 10 && any(2) == 0) {
                 sayRule(run, x, y, said);
             }
-            both(run, x, y, name, said, arguments(name));
+            int[] a = arguments(name);
+            if (name == 20 && any(2) == 0) {
+                a[1] = momentOf(y);
+            }
+            both(run, x, y, name, said, a);
         }
+    }
+
+    /** A second at which some BUS comes or leaves, or one beside it: there a BOARD changes. */
+    private int momentOf(Naive y) {
+        return (int) y.at(any(8), any(10), any(2)) + between(-1, 1);
     }
 
     /** A line that is worth looking at: BUSES near each other, people at most STOPS. */
